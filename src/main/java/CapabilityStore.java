@@ -688,7 +688,7 @@ public final class CapabilityStore {
             return made;
         }
 
-        /** All of a token but its object and chain; a restore may have left old values in its places. */
+        /** All of a token but its object and chain. */
         private void startToken(int made, int subject) {
             holders[made] = 1 << subject;
             uses[made] = 0;
@@ -889,7 +889,7 @@ public final class CapabilityStore {
         }
 
         private static int lesser(int limit, int number) {
-            return limit == NONE ? number : Math.min(limit, number);
+            return limit == NONE || number < limit ? number : limit;
         }
     }
 

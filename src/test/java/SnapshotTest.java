@@ -3,6 +3,7 @@ public final class SnapshotTest {
     public static void main(String[] args) {
         promise36Count();
         promise37And38SaveAll();
+        promise37SaveExpired();
         promise37SaveNotAll();
         promise37SaveReplaces();
         promise38Restore();
@@ -54,6 +55,7 @@ public final class SnapshotTest {
         Expect.is("a call", 2, () -> x.request(1, 1, 8, 8));
         x.makePair(5);
         x.givePair(0, 3, 1, true);
+        x.givePair(0, 4, 1, false);
         x.giveBox(0, 3, 1);
         x.seal(5, 2, x.mint(5, 5, 5));
         x.revoke(1, 1);
@@ -61,10 +63,26 @@ public final class SnapshotTest {
         Expect.is("restore", 5, x::restore);
         Expect.same("all is as it was", before, Expect.seen(x));
         Expect.is("who holds the unsealer", 1, () -> x.givePair(0, 0, 1, true));
+        Expect.is("who holds the sealer", 1, () -> x.givePair(0, 0, 1, false));
         Expect.is("who holds the box", 1, () -> x.giveBox(0, 0, 1));
         Expect.fails("the box that is gone", Expect.INDEX, () -> x.pairOf(2));
         Expect.fails("the pair that is gone", Expect.INDEX, () -> x.givePair(5, 5, 2, true));
         Expect.is("what is in the box", 2, () -> x.unseal(0, 1));
+    }
+
+    private static void promise37SaveExpired() {
+        CapabilityStore x = new CapabilityStore();
+        x.mint(0, 0, 15);
+        Expect.derive(x, 0, 0, "t8");
+        Expect.derive(x, 0, 0, "t3");
+        Expect.is("one expires", 1, () -> x.pass(5));
+        x.save();
+        Expect.is("another one expires", 1, () -> x.pass(5));
+        Expect.is("it is the first one", 1, () -> x.expired(0));
+        x.restore();
+        Expect.is("the one that is saved", 2, () -> x.expired(0));
+        Expect.is("the time is saved", 5, () -> x.count(1));
+        Expect.is("the other one expires once more", 1, () -> x.pass(3));
     }
 
     private static void promise37SaveNotAll() {
