@@ -21,7 +21,7 @@ public final class BoxTest {
             Expect.is("its sealer", 1 << p + 2, () -> x.givePair(pair + 2, pair + 2, pair, false));
             Expect.is("its unsealer", 1 << p + 2, () -> x.givePair(pair + 2, pair + 2, pair, true));
         }
-        Expect.failsUnchanged(x, "the fifth pair", Expect.STATE, () -> x.makePair(0));
+        Expect.fails("the fifth pair", Expect.STATE, () -> x.makePair(0));
         Expect.fails("the fifth pair for no subject", Expect.INDEX, () -> x.makePair(6));
         Expect.is("pairs", 4, () -> x.count(2));
     }
@@ -42,7 +42,7 @@ public final class BoxTest {
         Expect.is("nothing went", 8, () -> x.givePair(3, 3, 1, false));
         int[][] wrong = {{6, 0, 0}, {-1, 0, 0}, {0, 6, 0}, {0, -1, 0}, {0, 0, 2}, {0, 0, -1}, {4, 6, 0}};
         for (int[] w : wrong) {
-            Expect.failsUnchanged(x, "givePair(" + w[0] + ", " + w[1] + ", " + w[2] + ")", Expect.INDEX,
+            Expect.fails("givePair(" + w[0] + ", " + w[1] + ", " + w[2] + ")", Expect.INDEX,
                     () -> x.givePair(w[0], w[1], w[2], true));
         }
         Expect.is("no entries", 0, () -> x.count(6) + x.count(5));
@@ -73,7 +73,7 @@ public final class BoxTest {
         Expect.is("with the sealer alone", 1, () -> x.seal(4, 1, 1));
         int[][] wrong = {{6, 0, 0}, {-1, 0, 0}, {0, 2, 0}, {0, -1, 0}, {0, 0, 2}, {0, 0, -1}, {5, 0, 2}};
         for (int[] w : wrong) {
-            Expect.failsUnchanged(x, "seal(" + w[0] + ", " + w[1] + ", " + w[2] + ")", Expect.INDEX,
+            Expect.fails("seal(" + w[0] + ", " + w[1] + ", " + w[2] + ")", Expect.INDEX,
                     () -> x.seal(w[0], w[1], w[2]));
         }
     }
@@ -85,7 +85,7 @@ public final class BoxTest {
         for (int b = 0; b < 12; b++) {
             Expect.is("seal", b, () -> x.seal(0, 0, 0));
         }
-        Expect.failsUnchanged(x, "the 13th box", Expect.STATE, () -> x.seal(0, 0, 0));
+        Expect.fails("the 13th box", Expect.STATE, () -> x.seal(0, 0, 0));
         Expect.fails("the 13th without the sealer", Expect.DENIED, () -> x.seal(1, 0, 0));
         x.givePair(0, 1, 0, false);
         Expect.fails("the 13th without the token", Expect.DENIED, () -> x.seal(1, 0, 0));
@@ -105,7 +105,7 @@ public final class BoxTest {
         Expect.is("give once more", 1 + 4 + 32, () -> x.giveBox(5, 0, 0));
         int[][] wrong = {{6, 0, 0}, {-1, 0, 0}, {0, 6, 0}, {0, -1, 0}, {0, 0, 1}, {0, 0, -1}, {1, 6, 0}};
         for (int[] w : wrong) {
-            Expect.failsUnchanged(x, "giveBox(" + w[0] + ", " + w[1] + ", " + w[2] + ")", Expect.INDEX,
+            Expect.fails("giveBox(" + w[0] + ", " + w[1] + ", " + w[2] + ")", Expect.INDEX,
                     () -> x.giveBox(w[0], w[1], w[2]));
         }
     }
@@ -134,10 +134,10 @@ public final class BoxTest {
         x.drop(3, 1);
         x.revoke(0, 1);
         Expect.is("a revoked one too", 1, () -> x.unseal(3, 0));
-        Expect.failsUnchanged(x, "no such subject", Expect.INDEX, () -> x.unseal(6, 0));
-        Expect.failsUnchanged(x, "no such subject", Expect.INDEX, () -> x.unseal(-1, 0));
-        Expect.failsUnchanged(x, "no such box", Expect.INDEX, () -> x.unseal(0, 1));
-        Expect.failsUnchanged(x, "no such box", Expect.INDEX, () -> x.unseal(0, -1));
+        Expect.fails("no such subject", Expect.INDEX, () -> x.unseal(6, 0));
+        Expect.fails("no such subject", Expect.INDEX, () -> x.unseal(-1, 0));
+        Expect.fails("no such box", Expect.INDEX, () -> x.unseal(0, 1));
+        Expect.fails("no such box", Expect.INDEX, () -> x.unseal(0, -1));
     }
 
     private static void promise30PairOf() {

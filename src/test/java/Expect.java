@@ -10,6 +10,11 @@ final class Expect {
         long answer();
     }
 
+    /** A call on a store that is yet to be made. */
+    interface CallOn {
+        long answer(CapabilityStore x);
+    }
+
     private static int checks = 0;
     private static int wrong = 0;
 
@@ -96,49 +101,5 @@ final class Expect {
             text.append(x.report(level, 0)).append(':').append(x.report(level, 1));
         }
         return text.toString();
-    }
-
-    /** Everything that can be seen of a small store, to see that a call changed nothing. */
-    static String seen(CapabilityStore x) {
-        StringBuilder all = new StringBuilder();
-        for (int what = 0; what <= 8; what++) {
-            all.append(x.count(what)).append(' ');
-        }
-        for (int t = 0; t < x.count(0); t++) {
-            all.append("\ntoken ").append(described(x, t));
-            for (int what = 0; what <= 6; what++) {
-                all.append(' ').append(x.token(t, what));
-            }
-            all.append(' ').append(x.holders(t));
-        }
-        for (int o = 0; o < 12; o++) {
-            all.append("\nobject ").append(x.object(o, 0)).append(' ').append(x.object(o, 1));
-        }
-        for (int s = 0; s < 6; s++) {
-            all.append("\nsubject ").append(x.coming(s)).append(' ').append(x.reached(s));
-        }
-        for (int i = 0; i < x.count(6); i++) {
-            all.append("\nlog ").append(x.log(i));
-        }
-        for (int b = 0; b < x.count(3); b++) {
-            all.append("\nbox ").append(x.pairOf(b));
-        }
-        all.append("\nerror ").append(x.errorPosition()).append(" report ").append(reported(x));
-        all.append(" expired");
-        for (int i = 0; !outcome(expiredAt(x, i)).equals(ELEMENT.getName()); i++) {
-            all.append(' ').append(x.expired(i));
-        }
-        return all.toString();
-    }
-
-    private static Call expiredAt(CapabilityStore x, int index) {
-        return () -> x.expired(index);
-    }
-
-    /** A call that throws and leaves everything as it was. */
-    static void failsUnchanged(CapabilityStore x, String call, Class<? extends RuntimeException> want, Call made) {
-        String before = seen(x);
-        fails(call, want, made);
-        same("the state after " + call, before, seen(x));
     }
 }

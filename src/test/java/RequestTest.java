@@ -40,13 +40,13 @@ public final class RequestTest {
         x.mint(0, 7, 15);
         int[][] places = {{6, 0}, {-1, 0}, {0, 1}, {0, -1}};
         for (int[] place : places) {
-            Expect.failsUnchanged(x, "request(" + place[0] + ", " + place[1] + ", 1, 0)", Expect.INDEX,
+            Expect.fails("request(" + place[0] + ", " + place[1] + ", 1, 0)", Expect.INDEX,
                     () -> x.request(place[0], place[1], 1, 0));
             Expect.fails("request there without a right", Expect.INDEX, () -> x.request(place[0], place[1], 3, 0));
         }
         int[] rights = {0, 3, 4, 5, 7, 9, 10, 15, 16, -1, Integer.MIN_VALUE};
         for (int right : rights) {
-            Expect.failsUnchanged(x, "request of right " + right, Expect.ARGUMENT, () -> x.request(0, 0, right, 0));
+            Expect.fails("request of right " + right, Expect.ARGUMENT, () -> x.request(0, 0, right, 0));
             Expect.fails("the same by one without the token", Expect.ARGUMENT, () -> x.request(1, 0, right, 0));
         }
         Expect.is("entries", 0, () -> x.count(6));
@@ -156,7 +156,7 @@ public final class RequestTest {
         Expect.is("pass", 1, () -> x.pass(1));
         int[] wrong = {0, -1, 101, Integer.MAX_VALUE, Integer.MIN_VALUE};
         for (int units : wrong) {
-            Expect.failsUnchanged(x, "pass(" + units + ")", Expect.ARGUMENT, () -> x.pass(units));
+            Expect.fails("pass(" + units + ")", Expect.ARGUMENT, () -> x.pass(units));
         }
         Expect.is("the expired one stays", 1, () -> x.expired(0));
     }

@@ -44,30 +44,31 @@ public final class SnapshotTest {
     }
 
     private static void promise37And38SaveAll() {
-        CapabilityStore x = busy();
-        String before = Expect.seen(x);
-        Expect.is("save", 5, x::save);
-        Expect.same("save changes nothing", before, Expect.seen(x));
-        x.mint(3, 3, 3);
-        x.drop(0, 0);
-        x.give(1, 4, 1);
-        Expect.is("a use", 0, () -> x.request(1, 1, 2, 8));
-        Expect.is("a call", 2, () -> x.request(1, 1, 8, 8));
-        x.makePair(5);
-        x.givePair(0, 3, 1, true);
-        x.givePair(0, 4, 1, false);
-        x.giveBox(0, 3, 1);
-        x.seal(5, 2, x.mint(5, 5, 5));
-        x.revoke(1, 1);
-        x.pass(100);
-        Expect.is("restore", 5, x::restore);
-        Expect.same("all is as it was", before, Expect.seen(x));
+        Look.Maker saved = Look.after(SnapshotTest::busy, x -> x.save());
+        Look.Maker restored = Look.after(Look.after(saved, SnapshotTest::changeAll), x -> x.restore());
+        Expect.same("what is not as it was", "", Look.changed(saved, restored));
+        CapabilityStore x = restored.make();
         Expect.is("who holds the unsealer", 1, () -> x.givePair(0, 0, 1, true));
         Expect.is("who holds the sealer", 1, () -> x.givePair(0, 0, 1, false));
         Expect.is("who holds the box", 1, () -> x.giveBox(0, 0, 1));
         Expect.fails("the box that is gone", Expect.INDEX, () -> x.pairOf(2));
         Expect.fails("the pair that is gone", Expect.INDEX, () -> x.givePair(5, 5, 2, true));
         Expect.is("what is in the box", 2, () -> x.unseal(0, 1));
+    }
+
+    private static int changeAll(CapabilityStore x) {
+        x.mint(3, 3, 3);
+        x.drop(0, 0);
+        x.give(1, 4, 1);
+        x.request(1, 1, 2, 8);
+        x.request(1, 1, 8, 8);
+        x.makePair(5);
+        x.givePair(0, 3, 1, true);
+        x.givePair(0, 4, 1, false);
+        x.giveBox(0, 3, 1);
+        x.seal(5, 2, x.mint(5, 5, 5));
+        x.revoke(1, 1);
+        return x.pass(100);
     }
 
     private static void promise37SaveExpired() {
@@ -119,19 +120,20 @@ public final class SnapshotTest {
 
     private static void promise38Restore() {
         CapabilityStore x = busy();
-        Expect.failsUnchanged(x, "nothing was saved", Expect.STATE, x::restore);
-        x.save();
-        String saved = Expect.seen(x);
+        Expect.fails("nothing was saved", Expect.STATE, x::restore);
+        Expect.is("save", 5, x::save);
         x.mint(0, 2, 15);
         x.give(1, 4, 1);
         x.revoke(1, 1);
         x.request(0, 5, 2, 9);
-        x.restore();
-        Expect.same("restored", saved, Expect.seen(x));
+        Expect.is("restore", 5, x::restore);
+        Expect.is("living tokens", 4, () -> x.count(8));
+        Expect.is("content", 0, () -> x.object(2, 0));
         x.pass(3);
         x.drop(1, 1);
-        x.restore();
-        Expect.same("restored once more", saved, Expect.seen(x));
+        Expect.is("restore once more", 5, x::restore);
+        Expect.is("the time", 7, () -> x.count(1));
+        Expect.is("holders", 2, () -> x.holders(1));
         CapabilityStore other = new CapabilityStore();
         Expect.fails("another object has nothing saved", Expect.STATE, other::restore);
     }

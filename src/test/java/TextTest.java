@@ -75,10 +75,10 @@ public final class TextTest {
         CapabilityStore x = new CapabilityStore();
         x.mint(0, 0, 15);
         Expect.put(x, "r1");
-        Expect.failsUnchanged(x, "derive by no subject", Expect.INDEX, () -> x.derive(6, 0));
-        Expect.failsUnchanged(x, "derive by no subject", Expect.INDEX, () -> x.derive(-1, 0));
-        Expect.failsUnchanged(x, "derive of no token", Expect.INDEX, () -> x.derive(0, 1));
-        Expect.failsUnchanged(x, "derive of no token", Expect.INDEX, () -> x.derive(0, -1));
+        Expect.fails("derive by no subject", Expect.INDEX, () -> x.derive(6, 0));
+        Expect.fails("derive by no subject", Expect.INDEX, () -> x.derive(-1, 0));
+        Expect.fails("derive of no token", Expect.INDEX, () -> x.derive(0, 1));
+        Expect.fails("derive of no token", Expect.INDEX, () -> x.derive(0, -1));
         Expect.is("the buffer is not empty", 2, () -> x.count(7));
         Expect.fails("derive of one not held", Expect.DENIED, () -> x.derive(1, 0));
         Expect.same("its report", "1:0", Expect.reported(x));

@@ -67,12 +67,12 @@ public final class TokenTest {
         Expect.is("the other's holders", 32, () -> x.holders(1));
         int[][] places = {{6, 0}, {-1, 0}, {0, 12}, {0, -1}, {Integer.MAX_VALUE, 0}, {0, Integer.MIN_VALUE}};
         for (int[] place : places) {
-            Expect.failsUnchanged(x, "mint(" + place[0] + ", " + place[1] + ", 1)", Expect.INDEX,
+            Expect.fails("mint(" + place[0] + ", " + place[1] + ", 1)", Expect.INDEX,
                     () -> x.mint(place[0], place[1], 1));
             Expect.fails("mint there with wrong rights", Expect.INDEX, () -> x.mint(place[0], place[1], 16));
         }
-        Expect.failsUnchanged(x, "mint with rights 16", Expect.ARGUMENT, () -> x.mint(0, 0, 16));
-        Expect.failsUnchanged(x, "mint with rights -1", Expect.ARGUMENT, () -> x.mint(0, 0, -1));
+        Expect.fails("mint with rights 16", Expect.ARGUMENT, () -> x.mint(0, 0, 16));
+        Expect.fails("mint with rights -1", Expect.ARGUMENT, () -> x.mint(0, 0, -1));
     }
 
     private static void promise2MintFull() {
@@ -102,7 +102,7 @@ public final class TokenTest {
         Expect.is("no use", 0, () -> x.token(0, 3));
         int[][] wrong = {{6, 0, 0}, {-1, 0, 0}, {0, 6, 0}, {0, -1, 0}, {0, 0, 1}, {0, 0, -1}, {2, 6, 0}};
         for (int[] w : wrong) {
-            Expect.failsUnchanged(x, "give(" + w[0] + ", " + w[1] + ", " + w[2] + ")", Expect.INDEX,
+            Expect.fails("give(" + w[0] + ", " + w[1] + ", " + w[2] + ")", Expect.INDEX,
                     () -> x.give(w[0], w[1], w[2]));
         }
     }
@@ -135,7 +135,7 @@ public final class TokenTest {
         x.give(0, 2, 0);
         Expect.is("drop", 2, () -> x.drop(1, 0));
         Expect.is("holders", 5, () -> x.holders(0));
-        Expect.failsUnchanged(x, "drop again", Expect.ELEMENT, () -> x.drop(1, 0));
+        Expect.fails("drop again", Expect.ELEMENT, () -> x.drop(1, 0));
         Expect.is("drop", 1, () -> x.drop(0, 0));
         Expect.is("drop", 0, () -> x.drop(2, 0));
         Expect.is("a token that nobody holds stays", 1, () -> x.count(0));
@@ -163,10 +163,10 @@ public final class TokenTest {
         CapabilityStore x = tree();
         x.give(0, 1, 3);
         x.give(0, 2, 1);
-        Expect.failsUnchanged(x, "revoke by no subject", Expect.INDEX, () -> x.revoke(6, 0));
-        Expect.failsUnchanged(x, "revoke by no subject", Expect.INDEX, () -> x.revoke(-1, 0));
-        Expect.failsUnchanged(x, "revoke of no token", Expect.INDEX, () -> x.revoke(0, 5));
-        Expect.failsUnchanged(x, "revoke of no token", Expect.INDEX, () -> x.revoke(0, -1));
+        Expect.fails("revoke by no subject", Expect.INDEX, () -> x.revoke(6, 0));
+        Expect.fails("revoke by no subject", Expect.INDEX, () -> x.revoke(-1, 0));
+        Expect.fails("revoke of no token", Expect.INDEX, () -> x.revoke(0, 5));
+        Expect.fails("revoke of no token", Expect.INDEX, () -> x.revoke(0, -1));
         Expect.fails("revoke by one that holds a lower one only", Expect.DENIED, () -> x.revoke(1, 2));
         Expect.same("its report", "1:2", Expect.reported(x));
         Expect.is("revoke by one that holds it", 1, () -> x.revoke(1, 3));
